@@ -330,6 +330,18 @@ public final class PromisesTest {
         due.is("gone from A of itself", 34, x.told(1));
         x = ran("=a(2,%(=a(3,!(a)),=a(4,!(a)),!(a)))");
         out("B, E, A in the SCOPE of %", x, 3, 4, 2);
+        x = ran("@c(=a(2,%(!(a),=a(3,^c(9)),!(a))))");
+        out("A on the way in the SCOPE of %", x, 2, 2);
+        x = ran("=b(=a(2,%(!(a),@d(d),!(a))),=a(4,?(<(c,1),^b(:c(1)),c)))");
+        out("B on the way in the SCOPE of %", x, 2, 2, 2, 2);
+        stood("two ESCAPES, to the inner", ran("@a(+(100,@b(+(10,^b(2)))))"), 0, 102, 13, 3);
+        stood("two ESCAPES, to the outer", ran("@a(+(100,@b(+(10,^a(2)))))"), 0, 2, 12, 3);
+        x = ran("@a(+(1,@b(%(0,^b(5),!(2)))))");
+        due.is("on the way to the inner", 6, x.told(1));
+        x = ran("@b(+(1,@a(%(0,^b(5),!(2)))))");
+        due.is("on the way to the outer", 5, x.told(1));
+        x = ran("@a(+(100,=c(@b(b),^b(+(c,1)))))");
+        due.is("an ESCAPE is no NUMBER to its own scope", 2, x.told(0));
         x = ran("+(=a(@b(%(!(1),^b(b),!(2))),5),3)");
         out("an ESCAPE is taken along", x, 1, 2);
         due.is("and bound", 8, x.told(1));
@@ -577,6 +589,7 @@ public final class PromisesTest {
         mean("[!(7),^a(1)]", 0, 7, 1);
         mean("7", 0, NO, NO);
         EscapeFrames x = Due.with("!(1)");
+        mean("!(:a(+(a,1)))", 3, 4, 1);
         due.is("mean(0, 2)", NO, x.mean(0, 2));
         due.is("mean(0, -1)", NO, x.mean(0, -1));
         due.is("mean(1, 0)", NO, x.mean(1, 0));
@@ -746,6 +759,7 @@ public final class PromisesTest {
         due.is("gives what it gave", 1, x.step(9));
         due.is("that is", 4, x.told(1));
 
+        imageOfRows();
         x = Due.with("!(1)");
         x.image();
         x.run(0);
@@ -753,6 +767,69 @@ public final class PromisesTest {
         stood("there was none", x, -9, NO, 0, 0);
         out("there was none", x);
         due.is("it doesn't run", STATE, x.step(1));
+    }
+
+    /** Other rows of the same length come between THE IMAGE and undo(), and another RUN, at each step. */
+    private static void imageOfRows() {
+        EscapeFrames x = Due.with("=a(5,@b(%(!(a),%(!(6),[@d(^b(7)),1],!(d)),!(+(a,1)))))",
+                "@c(=d(9,%(:d(1),%(=b(a,2),%(=a(@d(d),8),[^c(3),4],!(7)),5),%(6,=b(c,7),8))))", ":b(3)", ":b(4)",
+                "=a(%(!(1),%(!(2),@b(b),!(3)),!(4)),?(<(:c(+(c,1)),2),^a(a),c))");
+        x.see(1, 6);
+        x.plan(0, 2);
+        x.plan(1, 0);
+        x.book(1, 0);
+        x.value(0, 9);
+        for (int n = 0; n < 32; n++) {
+            imageAt(x, 0, n);
+            due.is("what is SEEN", 20, x.fits(0, 3, 0));
+            due.is("what is planned for a", 0, x.ends(0));
+            due.is("what is planned for b", 3, x.ends(1));
+            due.is("what is in the BOOK", -5, x.looked());
+            due.is("the steps left", 32 - n, x.step(300));
+            stood("the RUN goes on, from " + n, x, 0, 7, 32, 4);
+            out("the RUN goes on, from " + n, x, 5, 6, 0, 6);
+        }
+        long steps = x.on(4, 2);
+        for (int n = 0; n < steps; n++) {
+            imageAt(x, 4, n);
+            due.is("the steps left", steps - n, x.step(300));
+            due.is("the RUN comes in, from " + n, 2, x.told(1));
+            out("the RUN comes in, from " + n, x, 1, 2, 3, 4, 1, 2, 3, 4);
+            x.value(2, 0);
+        }
+        imageOfShort("=a(1,[=b(2,b),!(b)])", 0);
+        imageOfShort("!(@a(+(1,@b(^a(5)))))", 5);
+        imageOfShort("@b(=a(5,%(0,^b(1),!(a))))", 5);
+    }
+
+    /** A RUN that makes little comes between: what is made behind undo() must not take its places. */
+    private static void imageOfShort(String text, int written) {
+        EscapeFrames x = Due.with(text, "%(1,2,3)");
+        long steps = x.on(0, 2);
+        for (int n = 0; n < steps; n++) {
+            x.begin(0);
+            x.step(n);
+            x.image();
+            x.run(1);
+            x.undo();
+            x.step(300);
+            out(text + " from " + n, x, written);
+        }
+    }
+
+    private static void imageAt(EscapeFrames x, int line, int n) {
+        x.begin(line);
+        x.step(n);
+        due.is("image() on the way", 5, x.image());
+        due.is("the other RUN", 0, x.run(1));
+        x.see(-1, 0);
+        x.see(0, 7);
+        x.plan(-1, 0);
+        x.plan(0, 3);
+        x.plan(1, 2);
+        x.book(-1, 0);
+        x.book(2, 1);
+        due.is("undo() on the way", 5, x.undo());
     }
 
     private static void promise24() {
