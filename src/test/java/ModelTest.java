@@ -5,8 +5,11 @@ public final class ModelTest {
     private static Model m;
     private static final StringBuilder log = new StringBuilder();
     private static final Due due = new Due();
+    /** So many calls one call() makes at most: of steps, each looked at. */
+    private static final int DEAREST = 125;
     private static final long[] statuses = new long[10];
     private static long inside;
+    private static int calls;
 
     private static int draw(int n) {
         seed = seed * 6364136223846793005L + 1442695040888963407L;
@@ -57,7 +60,7 @@ public final class ModelTest {
         "=a(%(!(1),%(!(2),@b(b),!(3)),!(4)),?(<(:c(+(c,1)),#),^a(a),c))",
         "@a(%(!(1),@b(%(!(2),^a(@c(^b(c))),!(3))),!(4)))",
         "=a(%(1,@b(b),!(#)),%(!(6),?(<(:d(+(d,1)),3),^a(a),d),!(8)))",
-        "?(a,F(-(a,1)),#)", "?(a,+(1,F(-(a,1))),#)", "[!(a),F(+(a,1))]", "*(a,F(+(a,#)))",
+        "?(a,F(-(a,1)),#)", "?(a,+(1,F(-(a,1))),#)", "[!(a),F(+(a,1))]", "*(a,F(+(a,#)))", "+(1,F(a))", "+(0,-(1,F(2)))",
         "%(!(a),?(<(a,#),G(+(a,1)),a),!(-(0,a)))", "@d(%(G(1),^d(#),H(2)))",
         "=b(@c(c),?(<(:a(+(a,1)),#),^b(b),!(a)))", "^a(#)", "[^c(1),2]", "@c(=a(c,F(a)))",
         "@b(%(^b(1),2,!(#)))", "@b(%(1,2,[!(#),^b(4)]))", "=a(@b(b),%([!(#),?(<(:c(+(c,1)),4),^a(a),0)],1,!(5)))",
@@ -72,7 +75,7 @@ public final class ModelTest {
     }
 
     private static String text() {
-        String t = draw(2) == 0 ? form() : e(0);
+        String t = draw(4) == 0 ? e(5 + draw(3)) : draw(2) == 0 ? form() : e(0);
         for (int tries = 0; t.length() > 100 && tries < 40; tries++) {
             t = e(0);
         }
@@ -91,6 +94,7 @@ public final class ModelTest {
     }
 
     private static void same(String call, long want, long got) {
+        calls++;
         if (want != got) {
             System.out.println(log);
         } else if (log.length() < 20000) {
@@ -127,10 +131,18 @@ public final class ModelTest {
         }
     }
 
+    private static void told(int what) {
+        same("told(" + what + ")", m.told(what), x.told(what));
+    }
+
     private static void lookAround() {
-        for (int what = -1; what < 82; what++) {
-            same("told(" + what + ")", m.told(what), x.told(what));
+        for (int what = 0; what < 9; what++) {
+            told(what);
         }
+        told(9 + draw(16));
+        told(39 + draw((int) m.told(4) + 2));
+        told(39 + (int) m.told(4));
+        told(draw(2) == 0 ? draw(90) - 3 : edge());
         long status = m.told(0);
         if (status >= 0) {
             statuses[(int) status]++;
@@ -155,13 +167,14 @@ public final class ModelTest {
             case 7: case 8: same("begin(" + a + ")", m.begin(a), x.begin(a)); break;
             case 9: case 10: case 11: case 12: {
                 int n = draw(9) == 0 ? pick(-1, 0, 299, 300, 301) : draw(pick(3, 5, 30));
-                for (int times = n < 5 ? 12 : 1; times > 0; times--) {
+                for (int times = n < 5 ? 8 : 1; times > 0; times--) {
                     same("step(" + n + ")", m.step(n), x.step(n));
                     lookAround();
                 }
                 break;
             }
-            case 13: case 14: same("run(" + a + ")", m.run(a), x.run(a)); lookAround(); break;
+            case 13: same("run(" + a + ")", m.run(a), x.run(a)); lookAround(); break;
+            case 14: onTheWay(a); break;
             case 15:
                 for (int what : new int[] {-1, 0, 1, 2, 3, 4, 5, 10, 20, 39, 40, 41, 50, 79, 80}) {
                     same("on(" + a + ", " + what + ")", m.on(a, what), x.on(a, what));
@@ -193,6 +206,22 @@ public final class ModelTest {
             case 27: same("count(" + w + ")", m.count(w), x.count(w)); break;
             default: tapeCall();
         }
+    }
+
+    /** A RUN of a LINE, looked at in short behind a few steps each. */
+    private static void onTheWay(int line) {
+        same("begin(" + line + ")", m.begin(line), x.begin(line));
+        int pace = 1 + draw(4);
+        for (int times = 0; times < 20 && m.told(0) == -5; times++) {
+            same("step(" + pace + ")", m.step(pace), x.step(pace));
+            for (int what = 5; what < 9; what++) {
+                told(what);
+            }
+            if (m.told(8) >= 9) {
+                inside++;
+            }
+        }
+        lookAround();
     }
 
     private static void tapeCall() {
@@ -232,20 +261,28 @@ public final class ModelTest {
     }
 
     public static void main(String[] args) {
-        int runs = args.length > 0 ? Integer.parseInt(args[0]) : 3000;
+        int runs = args.length > 0 ? Integer.parseInt(args[0]) : 20000;
+        int most = 0;
         for (int run = 0; run < runs; run++) {
             seed = run * 7919L + 17;
             draw(2);
             log.setLength(0);
             x = new EscapeFrames();
             m = new Model();
-            for (int i = draw(8); i >= 0; i--) {
+            calls = 0;
+            for (int i = draw(5); i >= 0; i--) {
                 newLine();
             }
-            for (int i = 0; i < 120; i++) {
+            for (int f = draw(4) - 1; f >= 0; f--) {
+                int line = draw(5);
+                same("define(" + f + ", " + line + ")", m.define(f, line), x.define(f, line));
+            }
+            while (calls <= Play.MOST_CALLS - DEAREST) {
                 call();
             }
+            most = Math.max(most, calls);
         }
+        due.is("calls beyond what is promised", 0, Math.max(0, most - Play.MOST_CALLS));
         for (int s : new int[] {0, 2, 3, 4, 8}) {
             due.is("status " + s + " was looked at often", 1, statuses[s] > runs / 60 ? 1 : 0);
         }

@@ -771,16 +771,8 @@ public final class PromisesTest {
 
     /** Other rows of the same length come between THE IMAGE and undo(), and another RUN, at each step. */
     private static void imageOfRows() {
-        EscapeFrames x = Due.with("=a(5,@b(%(!(a),%(!(6),[@d(^b(7)),1],!(d)),!(+(a,1)))))",
-                "@c(=d(9,%(:d(1),%(=b(a,2),%(=a(@d(d),8),[^c(3),4],!(7)),5),%(6,=b(c,7),8))))", ":b(3)", ":b(4)",
-                "=a(%(!(1),%(!(2),@b(b),!(3)),!(4)),?(<(:c(+(c,1)),2),^a(a),c))");
-        x.see(1, 6);
-        x.plan(0, 2);
-        x.plan(1, 0);
-        x.book(1, 0);
-        x.value(0, 9);
         for (int n = 0; n < 32; n++) {
-            imageAt(x, 0, n);
+            EscapeFrames x = imageAt(0, n);
             due.is("what is SEEN", 20, x.fits(0, 3, 0));
             due.is("what is planned for a", 0, x.ends(0));
             due.is("what is planned for b", 3, x.ends(1));
@@ -789,13 +781,11 @@ public final class PromisesTest {
             stood("the RUN goes on, from " + n, x, 0, 7, 32, 4);
             out("the RUN goes on, from " + n, x, 5, 6, 0, 6);
         }
-        long steps = x.on(4, 2);
-        for (int n = 0; n < steps; n++) {
-            imageAt(x, 4, n);
-            due.is("the steps left", steps - n, x.step(300));
+        for (int n = 0; n < 74; n++) {
+            EscapeFrames x = imageAt(4, n);
+            due.is("the steps left", 74 - n, x.step(300));
             due.is("the RUN comes in, from " + n, 2, x.told(1));
             out("the RUN comes in, from " + n, x, 1, 2, 3, 4, 1, 2, 3, 4);
-            x.value(2, 0);
         }
         imageOfShort("=a(1,[=b(2,b),!(b)])", 0);
         imageOfShort("!(@a(+(1,@b(^a(5)))))", 5);
@@ -817,7 +807,15 @@ public final class PromisesTest {
         }
     }
 
-    private static void imageAt(EscapeFrames x, int line, int n) {
+    private static EscapeFrames imageAt(int line, int n) {
+        EscapeFrames x = Due.with("=a(5,@b(%(!(a),%(!(6),[@d(^b(7)),1],!(d)),!(+(a,1)))))",
+                "@c(=d(9,%(:d(1),%(=b(a,2),%(=a(@d(d),8),[^c(3),4],!(7)),5),%(6,=b(c,7),8))))", ":b(3)", ":b(4)",
+                "=a(%(!(1),%(!(2),@b(b),!(3)),!(4)),?(<(:c(+(c,1)),2),^a(a),c))");
+        x.see(1, 6);
+        x.plan(0, 2);
+        x.plan(1, 0);
+        x.book(1, 0);
+        x.value(0, 9);
         x.begin(line);
         x.step(n);
         due.is("image() on the way", 5, x.image());
@@ -830,6 +828,7 @@ public final class PromisesTest {
         x.book(-1, 0);
         x.book(2, 1);
         due.is("undo() on the way", 5, x.undo());
+        return x;
     }
 
     private static void promise24() {
